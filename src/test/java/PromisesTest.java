@@ -327,6 +327,10 @@ public final class PromisesTest {
         due("12 no child: the bed", x.at(23, 0, 0), 3);
         x = Checks.house(ROW, "h00;c33;c11");
         due("12 the least child", x.at(23, 0, 0), 3);
+        x = Checks.house("10;20;30", "g13;g23;g31");
+        for (int p = 0; p < 3; p++) {
+            due("12 a room with three doors", x.at(0, p, 0), 0);
+        }
         x = Checks.house("01;01", "g01");
         x.event(1, 0, 0);
         due("12 the second door", x.at(0, 0, 0), 1);
@@ -360,6 +364,15 @@ public final class PromisesTest {
         due("14 shut", x.far(5, 0, 7), NONE);
         due("14 on this side", x.far(5, 0, 3), 3);
         due("14 the same though shut", x.far(23, 4, 4), 0);
+        x = Checks.house("01;12;23;34;45;56;67;70", "");
+        for (int d = 0; d < 8; d++) {
+            x.event(1, 1 + d, 7 - d);
+        }
+        due("14 the ring is whole", x.far(0, 0, 7), 1);
+        for (int h = 1; h < 8; h++) {
+            due("14 one door more is shut each hour", x.far(h, 0, 8 - h), 8 - h);
+            due("14 one door more is shut each hour", x.far(h + 1, 0, 8 - h), NONE);
+        }
         due("14 hour", x.far(24, 0, 0), BAD);
         due("14 hour", x.far(-1, 0, 0), BAD);
         due("14 one", x.far(0, 8, 0), BAD);
@@ -421,6 +434,8 @@ public final class PromisesTest {
         due("18 later but more", x.crowd(0), 2);
         due("18 there", x.crowd(1), 3);
         due("18 so many", x.crowd(2), 3);
+        x = Checks.house(ROW, "g01;g31");
+        due("18 at hour 1", x.crowd(0), 1);
         x = Checks.house(ROW, "g33;g33;g22;g22");
         due("18 of like rooms the least", x.crowd(1), 2);
         x = new DollsAhead();
@@ -433,6 +448,7 @@ public final class PromisesTest {
         due("19 the guest", three().alone(), 1);
         due("19 all", Checks.house("", "g00;c11;h22").alone(), 7);
         due("19 one of three", Checks.house(ROW, "g11;g00;g11").alone(), 2);
+        due("19 none of two twos", Checks.house(ROW, "g00;g00;g11;g11").alone(), 0);
         due("19 nobody", new DollsAhead().alone(), 0);
     }
 
@@ -447,6 +463,10 @@ public final class PromisesTest {
         x = Checks.house("01", "g00;g00");
         due("20 only beside", x.sleep(1, 0), 1);
         due("20 not at home", x.at(5, 1, 0), 0);
+        x.event(1, 0, 0);
+        due("20 shut in", x.sleep(1, 1), 0);
+        x = Checks.house(ROW, "g00;h33;c33");
+        due("20 a bed of the child that draws the housekeeper away", x.sleep(0, 1), 24);
         x = Checks.house("", "g00;g00");
         due("20 nowhere", x.sleep(1, 0), 0);
         due("20 never", x.sleep(1, 1), 0);
@@ -472,6 +492,9 @@ public final class PromisesTest {
         due("21 though there is no more room", x.nice(22, 0), 1);
         due("21 though there is no more room", x.nice(22, 1), 2);
         due("21 none was added", x.count(4), 8);
+        x = Checks.house(ROW, "g03;g30");
+        x.event(1, 0, 1);
+        due("21 it can't help behind a shut door", x.nice(10, 1), 1);
         due("21 nobody", new DollsAhead().nice(0, 1), 0);
         due("21 hour", x.nice(24, 0), BAD);
         due("21 hour", x.nice(-1, 0), BAD);
@@ -492,6 +515,13 @@ public final class PromisesTest {
         due("22 by none", x.lens(0), NONE);
         due("22 by none", x.lens(1), NONE);
         due("22 by all", Checks.house(ROW, "c00;h00").lens(0), 1);
+        // Both go round a ring: the one that looks farthest ahead is the first to see where it will end.
+        x = Checks.house("01;12;23;34;45;56;67;70", "c15;h30");
+        due("22 the most", x.lens(0), 9);
+        due("22 the most", x.lens(1), 15);
+        x = three();
+        x.event(1, 0, 2);
+        due("22 with the event", x.lens(0), NONE);
     }
 
     private static void spare(DollsAhead x, int many, int first, int second) {
@@ -519,6 +549,17 @@ public final class PromisesTest {
         x.event(0, 23, 1);
         x.event(1, 1, 0);
         spare(x, 1, 1, NONE);
+        x = Checks.house(ROW, "g01;g11");
+        x.event(1, 0, 0);
+        spare(x, 1, 0, NONE);
+        x.event(1, 0, 0);
+        spare(x, 2, 0, 1);
+        x = Checks.house(ROW, "g01;g11");
+        for (int e = 0; e < 7; e++) {
+            x.event(0, 23, 7);
+        }
+        x.event(1, 0, 0);
+        spare(x, 1, 7, NONE);
     }
 
     private static void promise24Seen() {
@@ -591,6 +632,11 @@ public final class PromisesTest {
         due("27 person", x.was(-1, 0), BAD);
         due("27 what", x.was(0, 2), BAD);
         due("27 what", x.was(0, -1), BAD);
+        x = Checks.house(ROW, "g00");
+        x.event(0, 0, 2);
+        x.seen(1, 0, 2);
+        due("27 a guest by the ham, a child or a housekeeper not", x.was(0, 0), 1);
+        due("27 by any bed, as there is the ham", x.was(0, 1), 255);
         x = Checks.house(ROW, "h00;g33");
         x.seen(2, 0, 3);
         due("27 a child would draw the housekeeper", x.was(1, 0), 2);
@@ -606,6 +652,16 @@ public final class PromisesTest {
         due("28 one bed", x.ask(0), 0);
         x.seen(23, 0, 2);
         due("28 no bed", x.ask(0), 0);
+        x = Checks.house("01;02;03;04;05;06;07", "c00");
+        due("28 each in its own room", x.ask(0), 0);
+        x = Checks.house("21;10;23", "g20");
+        x.seen(0, 0, 1);
+        due("28 beds 0 and 1", x.was(0, 1), 3);
+        due("28 apart at hour 1", x.ask(0), 1);
+        x = Checks.house("12;23", "c14");
+        x.seen(0, 0, 2);
+        due("28 beds 2 and 3", x.was(0, 1), 12);
+        due("28 apart at hour 1", x.ask(0), 1);
         due("28 person", x.ask(1), BAD);
         due("28 person", x.ask(-1), BAD);
     }
@@ -828,24 +884,79 @@ public final class PromisesTest {
         due("37 with a fault, its bytes", x.count(2), 9);
     }
 
-    private static void promise38Digest() {
-        DollsAhead x = new DollsAhead();
-        // 17, then what the empty house tells: each by hand from the promises ahead.
-        long h = 17;
-        int[] counts = {0, 0, 0, 0, 0, 0, 192, 0, NONE, NONE};
-        for (int v : counts) {
-            h = 31 * h + v;
+    private static DollsAhead fullHouse() {
+        DollsAhead x = Checks.house("01;12;23;34;45;56;67;70;04;15;26;37", "g05;c16;h27;g30;c41;h52;g63;c74");
+        for (int e = 0; e < 4; e++) {
+            x.event(0, 5 * e + 2, 7 - 2 * e);
+            x.event(1, 4 * e + 1, 3 * e + 2);
+        }
+        for (int h = 0; h < 8; h++) {
+            x.seen(h, h, x.at(h, h, 0));
+        }
+        return x;
+    }
+
+    /** The digest once more from what the calls answer, in the order of promise 38. */
+    private static void digestOfItsAnswers(DollsAhead x) {
+        mixed = 17;
+        mix(x.count(0), x.count(1), x.count(2), x.count(3), x.count(4), x.count(5), x.count(6), x.count(7));
+        mix(x.fault(0), x.fault(1));
+        for (int d = 0; d < x.count(0); d++) {
+            mix(x.door(d, 0), x.door(d, 1));
         }
         for (int r = 0; r < 8; r++) {
-            h = 31 * h + ALL_HOURS;
-            h = 31 * h + (r == 0 ? 0 : NONE);
-            h = 31 * h + (r == 5 ? 0 : NONE);
+            mix(x.empty(r), x.far(9, r, 0), x.far(23, r, 5));
         }
-        int[] rest = {NONE, NONE, NONE, 0, 0, 0, 0, 0, 0, NONE, NONE, 0, NONE, 0, 0, 24};
-        for (int v : rest) {
-            h = 31 * h + v;
+        for (int p = 0; p < x.count(1); p++) {
+            mix(x.person(p, 0), x.person(p, 1), x.person(p, 2));
+            mix(x.at(0, p, 0), x.at(0, p, 1), x.at(5, p, 0), x.at(5, p, 1));
+            mix(x.at(12, p, 0), x.at(12, p, 1), x.at(23, p, 0), x.at(23, p, 1));
+            mix(x.sleep(p, 0), x.sleep(p, 1), x.was(p, 0), x.was(p, 1), x.ask(p));
+            mix(x.chance(5, p, 14, 0), x.chance(5, p, 14, 1), p == 0 ? 0 : x.meet(0, p));
         }
-        due("38 of a new house", x.digest(), h);
+        mix(x.found(0), x.found(1), x.found(2), x.crowd(0), x.crowd(1), x.crowd(2), x.alone());
+        mix(x.nice(8, 0), x.nice(8, 1), x.lens(0), x.lens(1), x.spare(NONE), x.spare(0), x.never());
+        mix(x.weeks(7, 6, 0), x.weeks(7, 6, 1));
+        due("38 of its answers", x.digest(), mixed);
+    }
+
+    private static long mixed;
+
+    private static void mix(long... values) {
+        for (long v : values) {
+            mixed = 31 * mixed + v;
+        }
+    }
+
+    private static void promise38Digest() {
+        DollsAhead x = new DollsAhead();
+        // What the empty house tells: each by hand from the promises ahead.
+        mixed = 17;
+        mix(0, 0, 0, 0, 0, 0, 192, 0, NONE, NONE);
+        for (int r = 0; r < 8; r++) {
+            mix(ALL_HOURS, r == 0 ? 0 : NONE, r == 5 ? 0 : NONE);
+        }
+        mix(NONE, NONE, NONE, 0, 0, 0, 0, 0, 0, NONE, NONE, 0, NONE, 0, 0, 24);
+        due("38 of a new house", x.digest(), mixed);
+        x = Checks.house("04;15;54;51", "g03;c40;h14;c51");
+        x.event(0, 7, 1);
+        x.event(1, 9, 0);
+        x.event(0, 11, 5);
+        x.seen(4, 0, 4);
+        x.ahead(2);
+        digestOfItsAnswers(x);
+        x = fullHouse();
+        due("38 full of doors", x.count(0), 12);
+        due("38 full of people", x.count(1), 8);
+        due("38 full of events", x.count(4), 8);
+        due("38 full of what was seen", x.count(7), 8);
+        digestOfItsAnswers(x);
+        x.type(0, 'x');
+        x.undo(0);
+        x.type(0, 'x');
+        digestOfItsAnswers(x);
+        x.type(1, 'x');
+        digestOfItsAnswers(x);
         x = three();
         long before = x.digest();
         x.event(0, 24, 0);
