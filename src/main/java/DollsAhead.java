@@ -828,7 +828,9 @@ public final class DollsAhead {
         }
 
         void openAllBut(int shut) {
-            Arrays.fill(beside, 0);
+            for (int room = 0; room < ROOMS; room++) {
+                beside[room] = 0;
+            }
             for (int d = 0; d < many; d++) {
                 if ((shut >> d & 1) == 0) {
                     beside[ones[d]] |= 1 << others[d];

@@ -26,6 +26,11 @@ final class Checks {
         return x;
     }
 
+    /** Twelve doors and eight people: both texts are full. */
+    static DollsAhead fullTexts() {
+        return house("01;12;23;34;45;56;67;70;04;15;26;37", "g05;c16;h27;g30;c41;h52;g63;c74");
+    }
+
     static void typeAll(DollsAhead x, int text, String bytes) {
         for (char b : bytes.toCharArray()) {
             x.type(text, b);

@@ -1,4 +1,6 @@
+import com.sun.management.ThreadMXBean;
 import java.io.IOException;
+import java.lang.management.ManagementFactory;
 import java.lang.reflect.Constructor;
 import java.lang.reflect.Field;
 import java.lang.reflect.Member;
@@ -17,15 +19,20 @@ public final class LanguageTest {
         + "read(1) at(3) room(2) far(3) meet(2) empty(1) found(1) crowd(1) alone(0) sleep(2) nice(2) lens(1) "
         + "spare(1) seen(3) forget(0) never(0) was(2) ask(1) chance(4) weeks(3) sheet(3) lose(1) put(4) get(3) "
         + "copy(5) write(2) count(1) digest(0)";
-    private static final String[] BANNED = {"throw", "try", "catch", "finally", "synchronized", "assert", "->", "::",
-        "import static", "System\\.out", "System\\.nanoTime", "Random", "Object", "var", "@\\w+", "lambda", "protected"};
-    private static final int MOST_LINES = 60;
+    private static final String[] BANNED = {"throw", "try", "catch", "finally", "synchronized", "assert", "::", "Random",
+        "import static", "System\\.(?!arraycopy)", "Object", "protected", "package", "volatile", "Thread", "Exact\\("};
+    private static final Set<String> IMPORTS = Set.of("java.util.Arrays", "java.util.ArrayList", "java.util.List",
+        "java.util.Iterator");
+    private static final int MOST_LINES = 60, MOST_CALLS = 512;
+    // What all calls of one run may hold: 7.3 million fields and elements, the largest of 8 bytes.
+    private static final long MOST_BYTES = 8L * 7_300_000;
 
     private static final Checks checks = new Checks();
 
     public static void main(String[] args) throws IOException {
         face();
         members();
+        room();
         source(Files.readString(Path.of("src/main/java/DollsAhead.java")));
         checks.end();
     }
@@ -46,7 +53,7 @@ public final class LanguageTest {
 
     private static void members() {
         for (Method m : DollsAhead.class.getDeclaredMethods()) {
-            boolean isFace = FACE.contains(m.getName() + "(" + m.getParameterCount() + ")");
+            boolean isFace = (" " + FACE).contains(" " + m.getName() + "(" + m.getParameterCount() + ")");
             holds(m + " is public or private", isFace ? isPublic(m) : Modifier.isPrivate(m.getModifiers()));
             holds(m + " takes seven at most", m.getParameterCount() <= 7);
             boolean bearsName = (" " + FACE).contains(" " + m.getName() + "(");
@@ -56,7 +63,7 @@ public final class LanguageTest {
             boolean isFace = Set.of("NONE", "BAD", "NOT", "FULL").contains(f.getName());
             holds(f + " is public or private", isFace ? isPublic(f) : Modifier.isPrivate(f.getModifiers()));
         }
-        holds("twelve classes at most", DollsAhead.class.getDeclaredClasses().length <= 11);
+        holds("twelve classes at most", DollsAhead.class.getDeclaredClasses().length <= 12);
         for (Class<?> inside : DollsAhead.class.getDeclaredClasses()) {
             holds(inside + " is static", Modifier.isStatic(inside.getModifiers()));
             fields(inside);
@@ -78,6 +85,32 @@ public final class LanguageTest {
         return Modifier.isPublic(m.getModifiers());
     }
 
+    /** What the dearest calls of a run make, as far as this machine counts it. */
+    private static void room() {
+        boolean counts = ManagementFactory.getThreadMXBean() instanceof ThreadMXBean bean
+            && bean.isThreadAllocatedMemorySupported() && bean.isThreadAllocatedMemoryEnabled();
+        if (!counts) {
+            System.out.println("this machine does not count what is made");
+            return;
+        }
+        ThreadMXBean bean = (ThreadMXBean) ManagementFactory.getThreadMXBean();
+        long self = Thread.currentThread().getId();
+        long before = bean.getThreadAllocatedBytes(self);
+        DollsAhead x = Checks.fullTexts();
+        for (int e = 0; e < 8; e++) {
+            x.event(e % 2, 2 * e, e);
+        }
+        for (int calls = 66 + 8; calls < MOST_CALLS; calls++) {
+            if (calls % 16 == 0) {
+                x.digest();
+            } else {
+                x.chance(1 + calls % 15, calls % 8, calls % 24, 0);
+            }
+        }
+        long made = bean.getThreadAllocatedBytes(self) - before;
+        holds("a run makes " + made + " bytes", made < MOST_BYTES);
+    }
+
     private static void source(String text) {
         String code = text.replaceAll("(?s)/\\*.*?\\*/", "").replaceAll("//[^\n]*", "");
         for (String word : BANNED) {
@@ -85,13 +118,13 @@ public final class LanguageTest {
             Matcher found = Pattern.compile(edge + word + edge).matcher(code);
             holds("the source says " + word, !found.find());
         }
-        holds("one import", code.split("import ").length == 2 && code.contains("import java.util.Arrays;"));
-        // Nothing is made in a call: rows are made in constructors, or stand at fields.
-        Matcher made = Pattern.compile("(?m)^ {8,}(?!.*final int\\[\\])(.*\\bnew\\b.*)$").matcher(code);
-        while (made.find()) {
-            String line = made.group(1).trim();
-            holds("made in a call: " + line, text.indexOf(line) < text.indexOf("// ---- doors, people, events"));
+        Matcher imported = Pattern.compile("(?m)^import ([^;]*);").matcher(code);
+        while (imported.find()) {
+            holds("import " + imported.group(1), IMPORTS.contains(imported.group(1)));
         }
+        Matcher lambda = Pattern.compile("(?m)^(?!\\s*(case|default)\\b).*->").matcher(code);
+        holds("no lambda", !lambda.find());
+        holds("no sign above 127", text.chars().allMatch(c -> c <= 127));
         methodsAreShort(code);
     }
 

@@ -1,5 +1,3 @@
-import java.lang.reflect.InvocationTargetException;
-import java.lang.reflect.Method;
 import java.util.ArrayList;
 import java.util.List;
 import java.util.Random;
@@ -19,7 +17,7 @@ public final class ModelTest {
         random = new Random(seed);
     }
 
-    public static void main(String[] args) throws ReflectiveOperationException {
+    public static void main(String[] args) {
         int wrong = 0;
         for (int seed = 0; seed < RUNS && wrong < MOST_SHOWN; seed++) {
             ModelTest run = new ModelTest(seed);
@@ -32,13 +30,14 @@ public final class ModelTest {
         }
     }
 
-    private void goOn() throws ReflectiveOperationException {
+    private void goOn() {
         typeDoors(random.nextInt(13));
         typePeople(random.nextInt(9));
         for (int e = random.nextInt(7); e > 0; e--) {
             int kind = random.nextInt(2);
             call("event", kind, random.nextInt(24), random.nextInt(kind == 0 ? 8 : 12));
         }
+        call("ahead", 1 + random.nextInt(9));
         String[] names = {"type", "wipe", "undo", "fault", "door", "person", "ahead", "event", "back", "read",
             "at", "room", "far", "meet", "empty", "found", "crowd", "alone", "sleep", "nice", "lens", "spare",
             "seen", "forget", "never", "was", "ask", "chance", "weeks",
@@ -58,7 +57,7 @@ public final class ModelTest {
         call("digest");
     }
 
-    private void typeDoors(int many) throws ReflectiveOperationException {
+    private void typeDoors(int many) {
         for (int d = 0; d < many; d++) {
             int one = random.nextInt(8);
             int other = (one + 1 + random.nextInt(7)) % 8;
@@ -66,13 +65,13 @@ public final class ModelTest {
         }
     }
 
-    private void typePeople(int many) throws ReflectiveOperationException {
+    private void typePeople(int many) {
         for (int p = 0; p < many; p++) {
             typeAll(1, (p == 0 ? "" : ";") + "gch".charAt(random.nextInt(3)) + random.nextInt(8) + random.nextInt(8));
         }
     }
 
-    private void retype() throws ReflectiveOperationException {
+    private void retype() {
         int text = random.nextInt(2);
         call("wipe", text);
         if (text == 0) {
@@ -82,13 +81,13 @@ public final class ModelTest {
         }
     }
 
-    private void typeAll(int text, String bytes) throws ReflectiveOperationException {
+    private void typeAll(int text, String bytes) {
         for (char b : bytes.toCharArray()) {
             call("type", text, b);
         }
     }
 
-    private void seeWhatIs() throws ReflectiveOperationException {
+    private void seeWhatIs() {
         int hour = random.nextInt(24);
         int person = random.nextInt(8);
         call("seen", hour, person, Math.max(0, plain.at(hour, person, 0)));
@@ -123,38 +122,17 @@ public final class ModelTest {
     }
 
     private static int parameters(String name) {
-        return method(DollsAhead.class, name).getParameterCount();
+        return Calls.method(DollsAhead.class, name).getParameterCount();
     }
 
-    private static Method method(Class<?> type, String name) {
-        for (Method m : type.getMethods()) {
-            if (m.getName().equals(name) && m.getDeclaringClass() == type) {
-                return m;
-            }
-        }
-        throw new IllegalStateException("no method " + name);
-    }
-
-    private static long ask(Object it, String name, int... in) throws ReflectiveOperationException {
-        Object[] boxed = new Object[in.length];
-        for (int i = 0; i < in.length; i++) {
-            boxed[i] = in[i];
-        }
-        return ((Number) method(it.getClass(), name).invoke(it, boxed)).longValue();
-    }
-
-    private void call(String name, int... in) throws ReflectiveOperationException {
-        StringBuilder told = new StringBuilder(name).append('(');
-        for (int i = 0; i < in.length; i++) {
-            told.append(i == 0 ? "" : ", ").append(in[i]);
-        }
-        calls.add(told.append(')').toString());
-        long want = ask(plain, name, in);
+    private void call(String name, int... in) {
+        calls.add(Calls.told(name, in));
+        long want = Calls.answer(plain, name, in);
         long got;
         try {
-            got = ask(house, name, in);
-        } catch (InvocationTargetException e) {
-            System.out.println("threw " + e.getCause());
+            got = Calls.answer(house, name, in);
+        } catch (IllegalStateException e) {
+            System.out.println(e.getMessage());
             got = want + 1;
         }
         if (got != want) {

@@ -76,6 +76,15 @@ public final class PromisesTest {
             due("1 lose(" + s + ")", x.lose(s), NULL);
         }
         due("1 ahead", x.ahead(4), 3);
+        long before = x.digest();
+        DollsAhead other = Checks.fullTexts();
+        other.event(0, 0, 7);
+        other.seen(0, 0, 0);
+        other.sheet(0, 2, 60);
+        other.chance(8, 0, 0, 0);
+        due("1 each object is a house of its own", x.digest(), before);
+        due("1 each object is a house of its own", x.lose(0), NULL);
+        due("1 each object is a house of its own", x.ahead(3), 4);
         due("1 NONE", DollsAhead.NONE, NONE);
         due("1 BAD", DollsAhead.BAD, BAD);
         due("1 NOT", DollsAhead.NOT, NOT);
@@ -885,7 +894,7 @@ public final class PromisesTest {
     }
 
     private static DollsAhead fullHouse() {
-        DollsAhead x = Checks.house("01;12;23;34;45;56;67;70;04;15;26;37", "g05;c16;h27;g30;c41;h52;g63;c74");
+        DollsAhead x = Checks.fullTexts();
         for (int e = 0; e < 4; e++) {
             x.event(0, 5 * e + 2, 7 - 2 * e);
             x.event(1, 4 * e + 1, 3 * e + 2);
@@ -896,48 +905,19 @@ public final class PromisesTest {
         return x;
     }
 
-    /** The digest once more from what the calls answer, in the order of promise 38. */
     private static void digestOfItsAnswers(DollsAhead x) {
-        mixed = 17;
-        mix(x.count(0), x.count(1), x.count(2), x.count(3), x.count(4), x.count(5), x.count(6), x.count(7));
-        mix(x.fault(0), x.fault(1));
-        for (int d = 0; d < x.count(0); d++) {
-            mix(x.door(d, 0), x.door(d, 1));
-        }
-        for (int r = 0; r < 8; r++) {
-            mix(x.empty(r), x.far(9, r, 0), x.far(23, r, 5));
-        }
-        for (int p = 0; p < x.count(1); p++) {
-            mix(x.person(p, 0), x.person(p, 1), x.person(p, 2));
-            mix(x.at(0, p, 0), x.at(0, p, 1), x.at(5, p, 0), x.at(5, p, 1));
-            mix(x.at(12, p, 0), x.at(12, p, 1), x.at(23, p, 0), x.at(23, p, 1));
-            mix(x.sleep(p, 0), x.sleep(p, 1), x.was(p, 0), x.was(p, 1), x.ask(p));
-            mix(x.chance(5, p, 14, 0), x.chance(5, p, 14, 1), p == 0 ? 0 : x.meet(0, p));
-        }
-        mix(x.found(0), x.found(1), x.found(2), x.crowd(0), x.crowd(1), x.crowd(2), x.alone());
-        mix(x.nice(8, 0), x.nice(8, 1), x.lens(0), x.lens(1), x.spare(NONE), x.spare(0), x.never());
-        mix(x.weeks(7, 6, 0), x.weeks(7, 6, 1));
-        due("38 of its answers", x.digest(), mixed);
-    }
-
-    private static long mixed;
-
-    private static void mix(long... values) {
-        for (long v : values) {
-            mixed = 31 * mixed + v;
-        }
+        due("38 of its answers", x.digest(), Digests.ofAnswers(x));
     }
 
     private static void promise38Digest() {
         DollsAhead x = new DollsAhead();
         // What the empty house tells: each by hand from the promises ahead.
-        mixed = 17;
-        mix(0, 0, 0, 0, 0, 0, 192, 0, NONE, NONE);
+        Digests all = new Digests().mix(0, 0, 0, 0, 0, 0, 192, 0, NONE, NONE);
         for (int r = 0; r < 8; r++) {
-            mix(ALL_HOURS, r == 0 ? 0 : NONE, r == 5 ? 0 : NONE);
+            all.mix(ALL_HOURS, r == 0 ? 0 : NONE, r == 5 ? 0 : NONE);
         }
-        mix(NONE, NONE, NONE, 0, 0, 0, 0, 0, 0, NONE, NONE, 0, NONE, 0, 0, 24);
-        due("38 of a new house", x.digest(), mixed);
+        all.mix(NONE, NONE, NONE, 0, 0, 0, 0, 0, 0, NONE, NONE, 0, NONE, 0, 0, 24);
+        due("38 of a new house", x.digest(), all.wrapped());
         x = Checks.house("04;15;54;51", "g03;c40;h14;c51");
         x.event(0, 7, 1);
         x.event(1, 9, 0);
@@ -951,11 +931,13 @@ public final class PromisesTest {
         due("38 full of events", x.count(4), 8);
         due("38 full of what was seen", x.count(7), 8);
         digestOfItsAnswers(x);
-        x.type(0, 'x');
+        // A new house each time: one object answers 512 calls.
+        x = fullHouse();
         x.undo(0);
         x.type(0, 'x');
         digestOfItsAnswers(x);
-        x.type(1, 'x');
+        x = fullHouse();
+        x.undo(1);
         digestOfItsAnswers(x);
         x = three();
         long before = x.digest();
