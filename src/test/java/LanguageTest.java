@@ -44,11 +44,20 @@ public final class LanguageTest {
                 got.add(m.getName() + "(" + m.getParameterCount() + ")");
                 boolean isLong = m.getName().equals("chance") || m.getName().equals("digest");
                 holds("type of " + m.getName(), m.getReturnType() == (isLong ? long.class : int.class));
+                holds("static " + m.getName(), !Modifier.isStatic(m.getModifiers()));
+                for (Class<?> parameter : m.getParameterTypes()) {
+                    holds("a number that " + m.getName() + " takes", parameter == int.class);
+                }
             }
         }
         holds("the face: " + got, got.equals(new TreeSet<>(Set.of(FACE.split(" ")))));
         Constructor<?>[] made = DollsAhead.class.getDeclaredConstructors();
-        holds("one constructor", made.length == 1 && made[0].getParameterCount() == 0);
+        holds("one constructor", made.length == 1 && made[0].getParameterCount() == 0 && isPublic(made[0]));
+        int modifiers = DollsAhead.class.getModifiers();
+        holds("public and final", Modifier.isPublic(modifiers) && Modifier.isFinal(modifiers));
+        holds("of no other class", DollsAhead.class.getSuperclass() == Object.class);
+        holds("of no interface", DollsAhead.class.getInterfaces().length == 0);
+        holds("without a package", DollsAhead.class.getPackageName().isEmpty());
     }
 
     private static void members() {
@@ -62,10 +71,14 @@ public final class LanguageTest {
         for (Field f : DollsAhead.class.getDeclaredFields()) {
             boolean isFace = Set.of("NONE", "BAD", "NOT", "FULL").contains(f.getName());
             holds(f + " is public or private", isFace ? isPublic(f) : Modifier.isPrivate(f.getModifiers()));
+            holds(f + " is an int, if of the face", !isFace || f.getType() == int.class);
+            holds(f + " is static, if of the face", !isFace || Modifier.isStatic(f.getModifiers()));
         }
         holds("twelve classes at most", DollsAhead.class.getDeclaredClasses().length <= 12);
         for (Class<?> inside : DollsAhead.class.getDeclaredClasses()) {
             holds(inside + " is static", Modifier.isStatic(inside.getModifiers()));
+            boolean isHidden = !isPublic(inside) && !Modifier.isProtected(inside.getModifiers());
+            holds(inside + " is private or package-visible", isHidden);
             fields(inside);
         }
         fields(DollsAhead.class);
@@ -83,6 +96,10 @@ public final class LanguageTest {
 
     private static boolean isPublic(Member m) {
         return Modifier.isPublic(m.getModifiers());
+    }
+
+    private static boolean isPublic(Class<?> type) {
+        return Modifier.isPublic(type.getModifiers());
     }
 
     /** What the dearest calls of a run make, as far as this machine counts it. */
